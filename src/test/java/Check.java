@@ -1,0 +1,88 @@
+/** Collects answers that are not as due, and makes rows and courts for the tests. */
+final class Check {
+    static final int BYTES = 0;
+    static final int SHORTS = 1;
+    static final int INTS = 2;
+    static final int[] NEITHER_NOR = {Integer.MIN_VALUE, Integer.MIN_VALUE + 1, Integer.MAX_VALUE};
+
+    private int asked;
+    private int wrong;
+
+    void due(String call, long got, long want) {
+        asked++;
+        if (got != want) {
+            wrong++;
+            System.out.println(call + " answered " + got + ", due is " + want);
+        }
+    }
+
+    void dueTrue(String what, boolean holds) {
+        due(what, holds ? 1 : 0, 1);
+    }
+
+    /** Ends the program with exit code 1 if an answer was not as due, or if nothing was asked. */
+    void end() {
+        System.out.println(asked + " answers looked at, " + wrong + " not as due");
+        if (wrong > 0 || asked == 0) {
+            System.exit(1);
+        }
+    }
+
+    static void row(SideBySide x, int d, int sort, int... values) {
+        must(x.row(d, sort, values.length));
+        for (int i = 0; i < values.length; i++) {
+            must(x.put(d, i, values[i]));
+        }
+    }
+
+    static void text(SideBySide x, int d, String text) {
+        int[] signs = new int[text.length()];
+        for (int i = 0; i < signs.length; i++) {
+            signs[i] = text.charAt(i);
+        }
+        row(x, d, BYTES, signs);
+    }
+
+    /** What court answers to a text on shelf 7. */
+    static int told(SideBySide x, String text) {
+        text(x, 7, text);
+        return x.court(7);
+    }
+
+    /** A new object to which a text was told that has no fault. */
+    static SideBySide of(String text) {
+        SideBySide x = new SideBySide();
+        if (!text.isEmpty() && told(x, text) < 1) {
+            throw new IllegalStateException("the test's text has a fault: " + text);
+        }
+        return x;
+    }
+
+    private static void must(int answer) {
+        if (answer != 0) {
+            throw new IllegalStateException("the test's row was refused");
+        }
+    }
+
+    /** All that count, player, side and stroke tell. */
+    static String state(SideBySide x) {
+        StringBuilder all = new StringBuilder();
+        for (int what = 0; what < 6; what++) {
+            all.append(x.count(what)).append(' ');
+        }
+        for (int p = 0; p < 4; p++) {
+            for (int what = 0; what < 4; what++) {
+                all.append(x.player(p, what)).append(' ');
+            }
+        }
+        for (int s = 0; s < 2; s++) {
+            for (int what = 0; what < 3; what++) {
+                all.append(x.side(s, what)).append(' ');
+            }
+        }
+        for (int s = 0; s < x.count(0); s++) {
+            all.append(x.stroke(s, 0)).append('/').append(x.stroke(s, 1)).append(' ');
+        }
+        return all.toString();
+    }
+}
