@@ -131,30 +131,35 @@ public final class CourtTextTest {
     private static void hitsAndPointsEnd() {
         // Nobody's for ever: side 0 makes a point by each hit.
         SideBySide x = Check.of("b09;p211;p311;h10;");
+        Check.text(x, 0, hits(25));
+        Check.text(x, 1, hits(24));
         for (int i = 0; i < 3; i++) {
-            check.due("25 hits", Check.told(x, hits(25)), 25);
+            check.due("25 hits", x.court(0), 25);
         }
-        check.due("24 points fit, one more does not", Check.told(x, hits(25)), -2096);
+        check.due("24 points fit, one more does not", x.court(0), -2096);
         check.due("nothing came", x.side(0, 2), 75);
-        check.due("24 hits", Check.told(x, hits(24)), 24);
+        check.due("24 hits", x.court(1), 24);
         check.due("POINTS", x.side(0, 2), 99);
         check.due("a hit told", Check.told(x, "d2;x00;"), -2003);
         check.due("no draught", x.count(3), 1);
         check.due("a hit", x.hit(0, 0), -3);
         check.due("no such hit", x.hit(1, 0), -1);
         check.due("in mind points go on", x.wins(0, 0), 1);
+        check.due("a night goes on", x.nights(1, 1, 0), 12);
 
         // Lifts are always got, so hits run out ahead of points.
         SideBySide y = Check.of("b30;");
+        Check.text(y, 0, hits(25));
+        Check.text(y, 1, hits(24));
         for (int i = 0; i < 39; i++) {
-            check.due("25 hits", Check.told(y, hits(25)), 25);
+            check.due("25 hits", y.court(0), 25);
         }
-        check.due("24 hits fit, one more does not", Check.told(y, hits(25)), -2096);
-        check.due("24 hits", Check.told(y, hits(24)), 24);
+        check.due("24 hits fit, one more does not", y.court(0), -2096);
+        check.due("24 hits", y.court(1), 24);
         check.due("HITS", y.count(1), 999);
         check.due("a hit told", Check.told(y, "x00;"), -2000);
         check.due("a hit", y.hit(0, 0), -3);
-        check.due("in mind hits go on", y.change(0, 8, 1, 0) >= 0 ? 1 : 0, 1);
+        check.due("in mind hits go on", y.change(0, 8, y.whose(0, 8), 0), 8);
         check.due("no points", y.side(0, 2) + y.side(1, 2), 0);
     }
 
