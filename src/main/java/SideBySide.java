@@ -531,7 +531,7 @@ public final class SideBySide {
         if (from.isBare() || to.isBare()) {
             return NOTHING_HELD;
         }
-        if (!from.isRow() || !to.isRow() || from.sort != to.sort) {
+        if (!from.isRow() || from.sort != to.sort) {
             return OTHER_KIND;
         }
         if (!from.spans(i, n) || !to.spans(j, n)) {
@@ -1190,7 +1190,6 @@ public final class SideBySide {
         void clear() {
             held = null;
             sort = NO_ROW;
-            size = 0;
         }
 
         void hold(Stroke one) {
@@ -1199,7 +1198,7 @@ public final class SideBySide {
         }
 
         void lay(int newSort, int n) {
-            held = null;
+            clear();
             sort = newSort;
             size = n;
             for (int i = 0; i < n; i++) {

@@ -25,6 +25,11 @@ public final class BestTest {
         check.due("a point of the other side ends it", y.fewest(0), -4);
         check.due("no first hit", y.fewest(1), -4);
 
+        // One behind the other they are alike far after a hit into column 1.
+        Check.told(y, "h01;f11;");
+        check.due("by the third, behind", y.fewest(0), 3);
+        check.due("the first hit, behind", y.fewest(1), 1);
+
         SideBySide z = Check.of("b00;");
         check.due("none", z.fewest(0), -4);
         check.due("no first hit of none", z.fewest(1), -4);
@@ -46,6 +51,9 @@ public final class BestTest {
         SideBySide y = Check.of("b19;p001;p181;");
         check.due("of side 0", y.bestForm(0, 0), 0);
         check.due("of side 0, by 6", y.bestForm(0, 1), 6);
+        // 2, not 3, is tired by the first hit, and so does not get what is hit back.
+        SideBySide w = Check.of("b19;p002;p101;p202;p302;t228;");
+        check.due("the lesser number has it", w.bestForm(0, 1), 6);
         SideBySide z = Check.of("b00;");
         check.due("alike", z.bestForm(1, 0), 0);
         check.due("all of them", z.bestForm(1, 1), 9);

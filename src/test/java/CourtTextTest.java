@@ -147,6 +147,16 @@ public final class CourtTextTest {
         check.due("in mind points go on", x.wins(0, 0), 1);
         check.due("a night goes on", x.nights(1, 1, 0), 12);
 
+        // And side 1 the same.
+        SideBySide z = Check.of("b09;x08;p011;p111;h00;");
+        Check.text(z, 0, hits(11));
+        for (int i = 0; i < 9; i++) {
+            check.due("11 hits", z.court(0), 11);
+        }
+        check.due("POINTS of side 1", z.side(1, 2), 99);
+        check.due("a hit told", Check.told(z, "x00;"), -2000);
+        check.due("a hit", z.hit(0, 0), -3);
+
         // Lifts are always got, so hits run out ahead of points.
         SideBySide y = Check.of("b30;");
         Check.text(y, 0, hits(25));

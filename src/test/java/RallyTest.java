@@ -5,6 +5,7 @@ public final class RallyTest {
     public static void main(String[] args) {
         withoutAPoint();
         withAPoint();
+        waysByThemselves();
         emptyOne();
         spent();
         nothingChanges();
@@ -51,6 +52,16 @@ public final class RallyTest {
         Check.row(x, 0, Check.BYTES, 0, 8, 0, 0);
         check.due("both hits", x.rally(0, 0), 2);
         check.due("no point in it", x.rally(0, 1), 2);
+    }
+
+    private static void waysByThemselves() {
+        SideBySide x = Check.of("b00;");
+        Check.row(x, 0, Check.BYTES, 0, 8, 0, 0);
+        Check.row(x, 1, Check.BYTES, 0, 6);
+        check.due("1 as a partner", x.ways(0, 1), 2);
+        check.due("1 stays", x.ways(1, 1), 0);
+        check.due("2 as a partner", x.ways(1, 2), 2);
+        check.due("0 for the shuttle", x.ways(0, 0), 1);
     }
 
     private static void emptyOne() {

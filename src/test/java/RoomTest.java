@@ -1,7 +1,8 @@
 import java.lang.management.ManagementFactory;
 
-/** All calls of a run live in one room: 512 of the dearest calls make next to nothing. */
+/** All calls of a run live in one room: however often the dearest calls are made, they make next to nothing. */
 public final class RoomTest {
+    private static final int CALLS = 256;
     private static final Check check = new Check();
 
     private interface Call {
@@ -33,7 +34,7 @@ public final class RoomTest {
         return x;
     }
 
-    /** 512 calls may make 64 KiB: a thousandth of what a room of 7.3 million fields holds. */
+    /** 1 KiB a call: 512 of them are far below what a room of 7.3 million fields and 600,000 objects holds. */
     private static void room(String name, Call call) {
         SideBySide x = court();
         call.on(x);
@@ -41,10 +42,10 @@ public final class RoomTest {
             (com.sun.management.ThreadMXBean) ManagementFactory.getThreadMXBean();
         long id = Thread.currentThread().getId();
         long ahead = thread.getThreadAllocatedBytes(id);
-        for (int i = 0; i < 512; i++) {
+        for (int i = 0; i < CALLS; i++) {
             call.on(x);
         }
         long made = thread.getThreadAllocatedBytes(id) - ahead;
-        check.dueTrue(name + " made " + made + " bytes in 512 calls", made < 512 * 1024);
+        check.dueTrue(name + " made " + made + " bytes in " + CALLS + " calls", made < CALLS * 1024);
     }
 }

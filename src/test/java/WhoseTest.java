@@ -120,6 +120,9 @@ public final class WhoseTest {
         Check.told(x, "p201;p301;h11;");
         check.due("the cell from a corner", x.farthest(0, 0), 8);
         check.due("the way from a corner", x.farthest(0, 1), 4);
+        Check.told(x, "p281;p381;");
+        check.due("the cell from the other corner", x.farthest(0, 0), 0);
+        check.due("the way from the other corner", x.farthest(0, 1), 4);
         check.due("farthest(3, 0)", x.farthest(3, 0), -1);
         check.due("farthest(-1, 0)", x.farthest(-1, 0), -1);
         check.due("farthest(0, 2)", x.farthest(0, 2), -1);
