@@ -5,6 +5,16 @@ final class Check {
     static final int INTS = 2;
     static final int[] NEITHER_NOR = {Integer.MIN_VALUE, Integer.MIN_VALUE + 1, Integer.MAX_VALUE};
 
+    /** A call, or several; what it answers. */
+    interface Call {
+        long on(SideBySide x);
+    }
+
+    /** Makes an object, the same each time. */
+    interface Maker {
+        SideBySide make();
+    }
+
     private int asked;
     private int wrong;
 
@@ -18,6 +28,13 @@ final class Check {
 
     void dueTrue(String what, boolean holds) {
         due(what, holds ? 1 : 0, 1);
+    }
+
+    /** That the call answers so, and that nothing has changed by it: a twin without it is the same in all. */
+    void changesNothing(String what, long want, Maker maker, Call call) {
+        SideBySide x = maker.make();
+        due(what, call.on(x), want);
+        dueTrue(what + " changes nothing", whole(x).equals(whole(maker.make())));
     }
 
     /** Ends the program with exit code 1 if an answer was not as due, or if nothing was asked. */
@@ -82,6 +99,33 @@ final class Check {
         }
         for (int s = 0; s < x.count(0); s++) {
             all.append(x.stroke(s, 0)).append('/').append(x.stroke(s, 1)).append(' ');
+        }
+        return all.toString();
+    }
+
+    /** State, shelves and image: all of an object that can be told; the object is used up by it. */
+    static String whole(SideBySide x) {
+        StringBuilder all = new StringBuilder(state(x));
+        for (int d = 0; d < 8; d++) {
+            all.append("| ").append(x.cost(d)).append(' ').append(x.toss(d)).append(' ');
+            all.append(rowOn(x, d)).append(' ');
+        }
+        all.append("| ").append(x.restore()).append(' ').append(state(x));
+        return all.toString();
+    }
+
+    /** The elements, and what becomes of a great number in the first one, which tells the SORT. */
+    private static String rowOn(SideBySide x, int d) {
+        StringBuilder all = new StringBuilder();
+        try {
+            for (int i = 0; i <= 100; i++) {
+                all.append(x.element(d, i)).append(' ');
+            }
+        } catch (IllegalStateException e) {
+            all.append("no more ");
+        }
+        if (x.put(d, 0, 70000) == 0) {
+            all.append(x.element(d, 0));
         }
         return all.toString();
     }
