@@ -294,6 +294,12 @@ public final class EdgeOfHitsTest {
         check.due("judge", x.judge(1), 2);
         Check.row(x, 1, Check.BYTES, 99, 99);
         check.due("judge", x.judge(1), 1);
+        // A byte of 128 is the least number and skipped; one of 129 is -127, which is not so.
+        x.row(1, Check.BYTES, 32);
+        for (int i = 0; i < 32; i++) {
+            x.put(1, i, 99 + i);
+        }
+        check.due("judge by bytes past 127", x.judge(1), 30);
         check.due("nights", x.nights(20, 3, 0), 240);
         check.due("nights of the other SIDE", x.nights(20, 3, 1), 0);
         check.due("above", x.draughts(1, 2, 0), 0);

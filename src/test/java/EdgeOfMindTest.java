@@ -417,6 +417,17 @@ public final class EdgeOfMindTest {
         check.due("below, not blown 1 in 2", y.draughts(1, 2, 1), 2);
         check.due("above, not blown 1 in 20", y.draughts(1, 20, 0), 19);
         check.due("below, not blown 1 in 20", y.draughts(1, 20, 1), 20);
+        // The first HIT at each SIDE must not be blown; those behind are got either way.
+        SideBySide z = Check.of("b70;".repeat(5) + "d0;h10;h00;p211;p351;p011;p151;");
+        for (int t = 2; t <= 20; t++) {
+            int[] above = {1, t - 1, (t - 1) * (t - 1), (t - 1) * (t - 1)};
+            int[] below = {1, t, t * t, t * t};
+            int[] hits = {0, 1, 2, 5};
+            for (int i = 0; i < 4; i++) {
+                check.due("above, " + hits[i] + " HITS, 1 in " + t, z.draughts(hits[i], t, 0), above[i]);
+                check.due("below, " + hits[i] + " HITS, 1 in " + t, z.draughts(hits[i], t, 1), below[i]);
+            }
+        }
     }
 
     private static void draughtsNoneAndAll() {
