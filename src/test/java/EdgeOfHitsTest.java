@@ -31,11 +31,14 @@ public final class EdgeOfHitsTest {
         check.end();
     }
 
+    /** Behind a HIT: the same when it is called, told in a text, and in mind. */
     private static int tiredOf(String court, int stroke, int cell, int p) {
         SideBySide x = Check.of(court);
         int inMind = x.change(stroke, cell, p, 1);
         x.hit(stroke, cell);
         check.due("TIRED in mind, of " + p + ", by " + court, inMind, x.player(p, 2));
+        SideBySide y = Check.of(court + "x" + stroke + cell + ";");
+        check.due("TIRED by a text, of " + p + ", by " + court, y.player(p, 2), x.player(p, 2));
         return x.player(p, 2);
     }
 
@@ -156,6 +159,8 @@ public final class EdgeOfHitsTest {
         int inMind = x.change(0, cell, p, 0);
         x.hit(0, cell);
         check.due("AT in mind, by " + court, inMind, x.player(p, 0));
+        SideBySide y = Check.of(court + "x0" + cell + ";");
+        check.due("AT by a text, by " + court, y.player(p, 0), x.player(p, 0));
         return x.player(p, 0);
     }
 
@@ -206,7 +211,7 @@ public final class EdgeOfHitsTest {
         check.due("his partner stays", partnerAt("b39;p161;", 0, 1), 6);
     }
 
-    /** "OUT OF PLACE: how far its partner of who HAS it (of the other SIDE: of the lesser number) is from his place": 0 .. */
+    /** "OUT OF PLACE: how far its partner of who HAS it (of the other SIDE: of the lesser number) is from his place" */
     private static void outOfPlace() {
         check.due("none", Check.of("p001;p151;").side(0, 3), 0);
         check.due("three", Check.of("p001;p161;").side(0, 3), 3);

@@ -226,7 +226,8 @@ public final class EdgeOfRefusalsTest {
     private static void shelves() {
         bounds("keep", -1, NONE, (x, a) -> x.keep(a[0], a[1], a[2], a[3]), base(0, 1, 0, 0),
             from(0, 7), from(0, 1), from(0, 7), from(0, 9));
-        bounds("keep", -1, NONE, (x, a) -> x.keep(a[0], a[1], a[2], a[3]), base(0, 0, 0, 0), from(0, 7), from(0, 1), null, null);
+        bounds("keep", -1, NONE, (x, a) -> x.keep(a[0], a[1], a[2], a[3]), base(0, 0, 0, 0),
+            from(0, 7), from(0, 1), null, null);
         bounds("row", -1, NONE, (x, a) -> x.row(a[0], a[1], a[2]), base(0, 0, 0), from(0, 7), from(0, 2));
         int[] taken = {0, 100};
         for (int n : taken) {

@@ -1,4 +1,4 @@
-/** The bounds of ==== III.: SHELVES 0 .. 7, ROWS of 0 .. 100 elements, lowest bits, COST and FAILURE by FIGURE, THE IMAGE. */
+/** The bounds of ==== III.: SHELVES 0 .. 7, ROWS of 0 .. 100 elements, lowest bits, COST and FAILURE, THE IMAGE. */
 public final class EdgeOfShelvesTest {
     private static final int[] BITS = {8, 16, 32};
     private static final Check check = new Check();
@@ -312,7 +312,7 @@ public final class EdgeOfShelvesTest {
         check.due("second", at(x, 1, 1), 4);
     }
 
-    /** "COST: STROKE 2; SMASH 6; DROP FIGURE more; LIFT 1; PUSH half of a DROP's, cut; FLICK 2 more; BETWEEN FIGURE; WANDER 0" */
+    /** "COST: .. DROP FIGURE more; .. PUSH half of a DROP's, cut; .. BETWEEN FIGURE; WANDER 0" */
     private static void costByFigure() {
         int[] figures = {0, 1, 4, 5, 8, 9};
         int[][] costs = {{2, 2, 2, 2, 2, 2}, {6, 6, 6, 6, 6, 6}, {2, 3, 6, 7, 10, 11}, {1, 1, 1, 1, 1, 1},
