@@ -4,6 +4,7 @@ public final class BestTest {
 
     public static void main(String[] args) {
         fewest();
+        fewestByTheThird();
         bestForm();
         bestHabit();
         refusals();
@@ -38,6 +39,22 @@ public final class BestTest {
         check.due("side 1 has it", z.count(2), 2);
         check.due("of side 1", z.fewest(0), 3);
         check.due("the first hit of side 1", z.fewest(1), 3);
+    }
+
+    /** The first HIT in their order, each tried from now: what those ahead of it did in mind must not matter. */
+    private static void fewestByTheThird() {
+        String[] courts = {"b43;", "b03;p281;f11;h13;", "b43;p381;h10;", "b43;p382;", "b40;p242;f11;",
+            "b13;p052;p232;p301;h13;", "b40;b75;p002;p222;p381;", "b10;b43;p242;f01;", "b43;b05;p282;p301;",
+            "b63;b03;b15;b73;p022;p242;p321;f11;h01;", "b65;b40;p212;f11;", "b65;b33;b43;b03;p041;p222;f11;",
+            "b65;b40;p222;", "b63;b63;b43;p162;p222;p331;f11;", "b60;b60;b43;p141;p242;"};
+        int[] firsts = {0, 1, 1, 2, 3, 4, 5, 6, 7, 10, 13, 15, 16, 25, 26};
+        for (int i = 0; i < courts.length; i++) {
+            SideBySide x = Check.of(courts[i]);
+            check.due("nothing at once, " + courts[i], x.forced(), -4);
+            check.due("by the third, " + courts[i], x.fewest(0), 3);
+            check.due("the first HIT, " + courts[i], x.fewest(1), firsts[i]);
+            check.due("asked again, " + courts[i], x.fewest(1), firsts[i]);
+        }
     }
 
     private static void bestForm() {

@@ -1,3 +1,6 @@
+import java.lang.reflect.InvocationTargetException;
+import java.lang.reflect.Method;
+
 /** Collects answers that are not as due, and makes rows and courts for the tests. */
 final class Check {
     static final int BYTES = 0;
@@ -21,6 +24,14 @@ final class Check {
     void due(String call, long got, long want) {
         asked++;
         if (got != want) {
+            wrong++;
+            System.out.println(call + " answered " + got + ", due is " + want);
+        }
+    }
+
+    void dueText(String call, String got, String want) {
+        asked++;
+        if (!got.equals(want)) {
             wrong++;
             System.out.println(call + " answered " + got + ", due is " + want);
         }
@@ -73,6 +84,33 @@ final class Check {
             throw new IllegalStateException("the test's text has a fault: " + text);
         }
         return x;
+    }
+
+    /** What a call answers that is told as in "whose(0, 4)"; "throws E" where it throws E. */
+    static String ask(SideBySide x, String call) {
+        int open = call.indexOf('(');
+        String inside = call.substring(open + 1, call.length() - 1).trim();
+        String[] told = inside.isEmpty() ? new String[0] : inside.split(",");
+        Object[] figures = new Object[told.length];
+        for (int i = 0; i < told.length; i++) {
+            figures[i] = Integer.parseInt(told[i].trim());
+        }
+        try {
+            return String.valueOf(named(call.substring(0, open)).invoke(x, figures));
+        } catch (InvocationTargetException e) {
+            return "throws " + e.getCause().getClass().getSimpleName();
+        } catch (IllegalAccessException e) {
+            throw new IllegalStateException(call + " is not public", e);
+        }
+    }
+
+    private static Method named(String name) {
+        for (Method m : SideBySide.class.getMethods()) {
+            if (m.getName().equals(name)) {
+                return m;
+            }
+        }
+        throw new IllegalStateException("no call " + name);
     }
 
     private static void must(int answer) {
