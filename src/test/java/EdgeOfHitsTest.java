@@ -219,6 +219,19 @@ public final class EdgeOfHitsTest {
         check.due("three behind", Check.of("f01;p001;p101;").side(0, 3), 3);
         check.due("none of the other SIDE", Check.of("p281;p331;").side(1, 3), 0);
         check.due("three of the other SIDE", Check.of("p281;p321;").side(1, 3), 3);
+        // Each of the four has it once, and then they stand so.
+        String[] given = {"", "x14;x17;", "x14;", "x17;"};
+        int[][] beside = {{0, 2}, {1, 2}, {0, 2}, {0, 1}};
+        int[][] behind = {{2, 2}, {2, 2}, {2, 2}, {2, 1}};
+        for (int p = 0; p < 4; p++) {
+            SideBySide x = Check.of("b19;b30;" + given[p] + "p021;p131;p241;p381;");
+            check.due("who HAS it", x.count(2), p);
+            check.due("beside, of SIDE 0 when " + p + " HAS it", x.side(0, 3), beside[p][0]);
+            check.due("beside, of SIDE 1 when " + p + " HAS it", x.side(1, 3), beside[p][1]);
+            Check.told(x, "f01;f11;");
+            check.due("behind, of SIDE 0 when " + p + " HAS it", x.side(0, 3), behind[p][0]);
+            check.due("behind, of SIDE 1 when " + p + " HAS it", x.side(1, 3), behind[p][1]);
+        }
     }
 
     /** SIDE 0 makes a POINT by each HIT, and there were so many (11 times some). */

@@ -157,6 +157,18 @@ public final class EdgeOfMindTest {
         check.due("3 in mind too", y.bestForm(0, 1), 5);
         check.due("FORM", y.bestForm(0, 0), 0);
         check.due("3 has it still", y.count(2), 3);
+        // Whoever of the four has it now: of the SIDE in the corner 6 CELLS are held, of the other one 7.
+        String[] given = {"", "x14;x17;", "x14;", "x17;"};
+        for (int s = 0; s < 2; s++) {
+            String corner = "p" + 2 * s + "01;p" + (2 * s + 1) + "81;";
+            for (int p = 0; p < 4; p++) {
+                SideBySide z = Check.of("b19;b30;" + given[p] + "p011;p171;p211;p371;t000;t100;t200;t300;" + corner);
+                check.due("who HAS it", z.count(2), p);
+                check.due("FORM of " + s + " when " + p + " HAS it", z.bestForm(s, 1), 6);
+                check.due("FORM of the other SIDE when " + p + " HAS it", z.bestForm(1 - s, 1), 7);
+                check.due("HABIT of " + s + " when " + p + " HAS it", z.bestHabit(s, 1), 6);
+            }
+        }
     }
 
     // ---- rallies
